@@ -305,6 +305,23 @@ public final class PeopleTest {
         Check.due("on the next day", desk.signedFor(1), 0);
         desk.sign(3, 0, 2);
         Check.due("again", desk.signedFor(1), 1);
+        promise14SignedForEach();
+    }
+
+    private static void promise14SignedForEach() {
+        Signround desk = new Signround();
+        desk.draft();
+        desk.addRound(0, 255);
+        desk.send(0);
+        for (int p = 0; p < 8; p++) {
+            desk.delegate(p, 7 - p, 0, 0, 1);
+            desk.sign(7 - p, 0, p);
+            Check.due("signedFor " + p, desk.signedFor(p), 1);
+        }
+        desk.pass(1);
+        for (int p = 0; p < 8; p++) {
+            Check.due("on the next day, for " + p, desk.signedFor(p), 0);
+        }
     }
 
     private static void promise15ToSign() {
