@@ -18,19 +18,6 @@ final class Check {
         }
     }
 
-    /** The call throws just this class, none below it, and nothing that the desk tells has changed by it. */
-    static void refuses(String what, Signround desk, Class<? extends RuntimeException> kind, Runnable call) {
-        String before = Snapshot.of(desk);
-        Object thrown = "nothing";
-        try {
-            call.run();
-        } catch (RuntimeException e) {
-            thrown = e.getClass();
-        }
-        due(what + " throws", thrown, kind);
-        due(what + " changes", Snapshot.of(desk), before);
-    }
-
     static void end() {
         System.out.println(checks + " checks, " + wrong + " not as due");
         if (wrong != 0 || checks == 0) {

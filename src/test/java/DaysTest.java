@@ -1,181 +1,429 @@
-/** Promises 16 to 18. */
+/** Promises 16 to 18, and what the document tells of days. */
 public final class DaysTest {
+    private static final String PASS_60 = "pass(60)\n";
+
     public static void main(String[] args) {
-        promise16PassReminds();
-        promise16PassRemindsFromTheOpening();
-        promise16PassExpires();
-        promise16PassRefuses();
+        daysNumbered();
+        daysExpire();
+        daysExpireInsteadOfReminding();
+        daysRemind();
+        daysRemindOfOpenSlots();
+        daysRemindFiveTimes();
+        promise16Pass();
+        promise16Range();
         promise17Today();
         promise18NextReminder();
-        promise18NextReminderWithoutAny();
+        promise18TheSoonest();
+        promise18None();
+        promise18NoSuchEnvelope();
         Check.end();
     }
 
-    private static Signround sentDesk(int pace, int term, int people) {
-        Signround desk = new Signround();
-        desk.draft();
-        desk.addRound(0, people);
-        desk.setTimes(0, pace, term);
-        desk.send(0);
-        return desk;
+    private static void daysNumbered() {
+        Sentence.holds("Days: it is the day 0 at first; the number becomes 1 more", """
+                today() 0
+                pass(1) 0
+                today() 1
+                pass(1) 0
+                today() 2
+                """);
+        Sentence.holds("Days: events have the day's number", Beginnings.sent(0, 0, 2) + """
+                dayOf(0, 0) 0
+                pass(60) 0
+                sign(0, 0, 0) 0
+                dayOf(0, 1) 60
+                pass(1) 0
+                decline(0, 0, 1) 1
+                dayOf(0, 2) 61
+                dayOf(0, 1) 60
+                """);
     }
 
-    private static void promise16PassReminds() {
-        Signround desk = sentDesk(3, 0, 0b1010);
-        Check.due("two days", desk.pass(2), 0);
-        Check.due("the third", desk.pass(1), 2);
-        Check.due("events", desk.events(0), 3);
-        Check.due("kindOf", desk.kindOf(0, 1), Signround.REMINDER);
-        Check.due("the first slot first", desk.personOf(0, 1), 1);
-        Check.due("the second slot next", desk.personOf(0, 2), 3);
-        Check.due("dayOf", desk.dayOf(0, 2), 3);
-        Check.due("up to day 14", desk.pass(11), 6);
-        Check.due("a fifth time", desk.pass(1), 2);
-        Check.due("never a sixth time", desk.pass(60), 0);
-        Check.due("events", desk.events(0), 11);
-        Check.due("day of the last", desk.dayOf(0, 10), 15);
-        Signround two = sentDesk(1, 0, 1);
-        two.draft();
-        two.addRound(1, 0b111);
-        two.setTimes(1, 2, 0);
-        two.send(1);
-        two.draft();
-        two.addRound(2, 255);
-        two.setTimes(2, 1, 0);
-        Check.due("in two envelopes, no draft", two.pass(2), 2 + 3);
-        two.cancel(1);
-        Check.due("voided", two.pass(2), 2);
-        two.sign(0, 0, 0);
-        Check.due("completed", two.pass(2), 0);
+    private static void daysExpire() {
+        Sentence.holds("Days: the day is its day of sending plus the term, it expires", Beginnings.timed(0, 1) + """
+                state(0) SENT
+                pass(1) 0
+                state(0) EXPIRED
+                dayOf(0, 1) 1
+                """, Beginnings.timed(0, 60) + """
+                pass(59) 0
+                state(0) SENT
+                pass(1) 0
+                state(0) EXPIRED
+                dayOf(0, 1) 60
+                """, Beginnings.timed(0, 7) + """
+                pass(60) 0           // in the midst of a longer call
+                state(0) EXPIRED
+                dayOf(0, 1) 7
+                events(0) 2
+                """);
+        Sentence.holds("Days: the term counts from the sending", Beginnings.draft(0, 0, 1) + """
+                setTimes(0, 0, 3)
+                pass(5) 0
+                state(0) DRAFT
+                send(0) 1
+                state(0) SENT
+                pass(2) 0
+                state(0) SENT
+                pass(1) 0
+                state(0) EXPIRED
+                dayOf(0, 1) 8
+                """);
+        Sentence.holds("Days: not from the opening of a slot, nor from a signing", """
+                draft() 0
+                addSlot(0, 0, 0) 0
+                addSlot(0, 0, 1) 1
+                setTimes(0, 0, 3)
+                send(0) 1
+                pass(2) 0
+                sign(0, 0, 0) 1
+                pass(1) 0
+                state(0) EXPIRED
+                """);
+        Sentence.holds("Days: without a term it does not expire", Beginnings.timed(0, 0) + """
+                state(0) SENT
+                pass(60) 0
+                pass(60) 0
+                state(0) SENT
+                events(0) 1
+                """);
+        Sentence.holds("Days: each envelope that is sent, and no other",
+                Beginnings.timed(0, 1) + Beginnings.draft(1, 0, 1) + "setTimes(1, 1, 1)\n"
+                + Beginnings.draft(2, 0, 1) + "setTimes(2, 1, 1)\nsend(2) 1\nsign(0, 2, 0) 0\n"
+                + Beginnings.draft(3, 0, 1) + "setTimes(3, 1, 1)\nsend(3) 1\ndecline(0, 3, 0) 1\n"
+                + Beginnings.draft(4, 0, 1) + "setTimes(4, 1, 1)\nsend(4) 1\ncancel(4) 1\n"
+                + Beginnings.draft(5, 0, 1) + "setTimes(5, 0, 1)\nsend(5) 1\n" + """
+                pass(3) 0
+                state(0) EXPIRED
+                state(1) DRAFT
+                events(1) 0
+                state(2) COMPLETED
+                events(2) 2
+                state(3) DECLINED
+                events(3) 2
+                state(4) VOIDED
+                events(4) 2
+                state(5) EXPIRED
+                events(5) 2
+                """);
     }
 
-    private static void promise16PassRemindsFromTheOpening() {
-        Signround desk = new Signround();
-        desk.draft();
-        desk.addRound(0, 1);
-        desk.addRound(0, 2);
-        desk.setTimes(0, 2, 0);
-        desk.pass(1);
-        desk.send(0);
-        Check.due("the first, on day 3", desk.pass(3), 1);
-        desk.sign(0, 0, 0);
-        Check.due("the second opened on day 4: not on 5", desk.pass(1), 0);
-        Check.due("but on 6", desk.pass(1), 1);
-        Check.due("personOf", desk.personOf(0, 3), 1);
-        Check.due("each slot has five", desk.pass(60), 4);
+    private static void daysExpireInsteadOfReminding() {
+        Sentence.holds("Days: it expires; otherwise slots are reminded of", Beginnings.timed(2, 4) + """
+                pass(3) 1
+                pass(1) 0            // both are due
+                state(0) EXPIRED
+                events(0) 3
+                kindOf(0, 2) EXPIRING
+                pass(60) 0
+                events(0) 3
+                """, Beginnings.timed(1, 1) + """
+                pass(1) 0
+                events(0) 2
+                kindOf(0, 1) EXPIRING
+                """);
+        Sentence.holds("Days: one envelope expires, another is reminded of",
+                Beginnings.timed(1, 1) + Beginnings.draft(1, 0, 1) + "setTimes(1, 1, 0)\nsend(1) 1\n" + """
+                pass(1) 1
+                kindOf(0, 1) EXPIRING
+                kindOf(1, 1) REMINDER
+                """);
     }
 
-    private static void promise16PassExpires() {
-        Signround desk = sentDesk(2, 4, 0b11);
-        desk.sign(0, 0, 0);
-        Check.due("reminders ahead of the term", desk.pass(3), 1);
-        Check.due("no reminder at the term", desk.pass(1), 0);
-        Check.due("state", desk.state(0), Signround.EXPIRED);
-        Check.due("a signed slot", desk.slotState(0, 0), Signround.SIGNED);
-        Check.due("an open slot", desk.slotState(0, 1), Signround.CLOSED);
-        Check.due("events", desk.events(0), 4);
-        Check.due("kindOf", desk.kindOf(0, 3), Signround.EXPIRING);
-        Check.due("personOf", desk.personOf(0, 3), Signround.NONE);
-        Check.due("dayOf", desk.dayOf(0, 3), 4);
-        Check.due("nothing behind", desk.pass(10), 0);
-        Check.due("events", desk.events(0), 4);
-        Signround late = new Signround();
-        late.draft();
-        late.addRound(0, 1);
-        late.setTimes(0, 0, 1);
-        late.pass(5);
-        late.send(0);
-        Check.due("state", late.state(0), Signround.SENT);
-        late.pass(60);
-        Check.due("the term counts from the sending", late.dayOf(0, 1), 6);
+    private static void daysRemind() {
+        Sentence.holds("Days: plus once, twice, or any more times the pace", Beginnings.timed(3, 0) + """
+                pass(1) 0
+                pass(1) 0
+                pass(1) 1            // once
+                pass(1) 0
+                pass(1) 0
+                pass(1) 1            // twice
+                pass(2) 0
+                pass(1) 1
+                pass(2) 0
+                pass(1) 1
+                pass(2) 0
+                pass(1) 1            // five times
+                """);
+        Sentence.holds("Days: the least and the greatest pace", Beginnings.timed(1, 0) + """
+                pass(1) 1
+                pass(1) 1
+                pass(1) 1
+                """, Beginnings.timed(30, 0) + """
+                pass(29) 0
+                pass(1) 1
+                pass(29) 0
+                pass(1) 1
+                dayOf(0, 2) 60
+                """);
+        Sentence.holds("Days: without a pace there is no reminder", Beginnings.timed(0, 0) + "pass(60) 0\nevents(0) 1\n",
+                Beginnings.timed(0, 60) + "pass(59) 0\nevents(0) 1\n");
+        Sentence.holds("Days: the day on which they became open, plus the pace", """
+                draft() 0
+                addSlot(0, 0, 0) 0
+                addSlot(0, 1, 1) 1
+                setTimes(0, 2, 0)
+                pass(1) 0
+                send(0) 1
+                pass(3) 1            // the first slot, on day 3
+                sign(0, 0, 0) 1      // the second opens on day 4
+                pass(1) 0            // not on day 5
+                pass(1) 1            // but on day 6
+                dayOf(0, 3) 6
+                personOf(0, 3) 1
+                """);
+        Sentence.holds("Days: by rising numbers", """
+                draft() 0
+                addRound(0, 0b10101) 3
+                addSlot(0, 1, 0) 3
+                setTimes(0, 1, 0)
+                send(0) 4
+                pass(2) 8
+                personOf(0, 1) 0
+                personOf(0, 2) 2
+                personOf(0, 3) 4
+                personOf(0, 4) 1
+                dayOf(0, 4) 1
+                personOf(0, 5) 0
+                dayOf(0, 5) 2
+                """);
     }
 
-    private static void promise16PassRefuses() {
-        Signround desk = sentDesk(1, 0, 1);
-        Check.refuses("0", desk, Check.ARGUMENT, () -> desk.pass(0));
-        Check.refuses("-1", desk, Check.ARGUMENT, () -> desk.pass(-1));
-        Check.refuses("61", desk, Check.ARGUMENT, () -> desk.pass(61));
-        Check.refuses("the greatest", desk, Check.ARGUMENT, () -> desk.pass(Integer.MAX_VALUE));
-        Check.due("60", desk.pass(60), 5);
+    private static void daysRemindOfOpenSlots() {
+        Sentence.holds("Days: those of its slots that are open", Beginnings.FIVE.replace("send", "setTimes(0, 1, 0)\nsend") + """
+                pass(1) 3            // 0, 1 and 4; 2 and 3 are waiting
+                sign(1, 0, 0) 1
+                sign(1, 0, 4) 0
+                pass(1) 2            // 1 and 3
+                sign(1, 0, 1) 1
+                sign(1, 0, 2) 0
+                pass(1) 1            // 3
+                cancel(0) 1
+                pass(1) 0
+                """);
+    }
+
+    private static void daysRemindFiveTimes() {
+        Sentence.holds("Days: have been reminded of fewer than 5 times", Beginnings.timed(2, 0) + """
+                pass(8) 4
+                pass(1) 0
+                pass(1) 1            // the fifth time
+                pass(1) 0
+                pass(1) 0            // never a sixth
+                pass(60) 0
+                pass(60) 0
+                events(0) 6
+                dayOf(0, 5) 10
+                """, Beginnings.timed(30, 0) + """
+                pass(60) 2
+                pass(60) 2
+                pass(29) 0
+                pass(1) 1
+                pass(60) 0
+                dayOf(0, 5) 150
+                """);
+        Sentence.holds("Days: each slot has its own five", """
+                draft() 0
+                addSlot(0, 0, 0) 0
+                addSlot(0, 1, 0) 1
+                addSlot(0, 2, 1) 2
+                setTimes(0, 1, 0)
+                send(0) 2
+                pass(4) 8
+                sign(0, 0, 0) 1
+                pass(1) 2            // the fifth of slot 1, the first of slot 2
+                pass(4) 4            // the other four of slot 2
+                pass(60) 0
+                """);
+        Sentence.holds("Days: each envelope has its own", Beginnings.timed(1, 0)
+                + Beginnings.draft(1, 0, 1) + "setTimes(1, 1, 0)\npass(5) 5\nsend(1) 1\npass(60) 5\n");
+    }
+
+    private static void promise16Pass() {
+        Sentence.holds("16: Returns how many reminders there were", Beginnings.timed(1, 0)
+                + Beginnings.draft(1, 0, 3) + "setTimes(1, 2, 0)\nsend(1) 3\n" + """
+                pass(2) 5            // slot 0 on both days, three slots on the second
+                pass(1) 1
+                pass(1) 4
+                """);
+        Sentence.holds("16: none", "pass(60) 0\n", Beginnings.DRAFT + "setTimes(0, 1, 0)\npass(60) 0\n");
+        StringBuilder sixFull = new StringBuilder();
+        for (int e = 0; e < 6; e++) {
+            sixFull.append(Beginnings.draft(e, e, 8)).append("setTimes(" + e + ", 12, 0)\nsend(" + e + ") 8\n");
+        }
+        Sentence.holds("16: as many as there can be", sixFull + """
+                pass(59) 192
+                pass(1) 48
+                pass(60) 0
+                """, sixFull + "pass(60) 240\nevents(5) 41\n");
+    }
+
+    private static void promise16Range() {
+        Sentence.holds("16: days: 1 to 60; IllegalArgumentException if days is out of range", Beginnings.timed(1, 60) + """
+                pass(0) throws.IllegalArgumentException
+                pass(61) throws.IllegalArgumentException
+                pass(-1) throws.IllegalArgumentException
+                pass(-2147483648) throws.IllegalArgumentException
+                pass(2147483647) throws.IllegalArgumentException
+                today() 0
+                pass(1) 1
+                today() 1
+                pass(60) 4
+                today() 61
+                """);
     }
 
     private static void promise17Today() {
-        Signround desk = new Signround();
-        Check.due("today", desk.today(), 0);
-        desk.pass(1);
-        Check.due("today", desk.today(), 1);
-        desk.pass(60);
-        Check.due("today", desk.today(), 61);
-        for (int n = 0; n < 500; n++) {
-            desk.pass(60);
-        }
-        Check.due("today", desk.today(), 30061);
+        Sentence.holds("17: Returns the day", """
+                today() 0
+                pass(1) 0
+                today() 1
+                pass(60) 0
+                today() 61
+                """);
+        Sentence.holds("17: the last day that there can be", PASS_60.repeat(511) + "today() 30660");
+        Sentence.holds("17: late days go as the first ones", PASS_60.repeat(490) + """
+                draft() 0
+                addSlot(0, 0, 0) 0
+                addSlot(0, 1, 0) 1
+                setTimes(0, 4, 9)
+                send(0) 2
+                nextReminder(0) 29404
+                delegate(0, 1, 29400, 29401, 1) NONE
+                sign(1, 0, 0) 0
+                pass(2) 0
+                delegateToday(0) NONE
+                signedFor(0) 0
+                pass(2) 1
+                dayOf(0, 2) 29404
+                pass(5) 1
+                state(0) EXPIRED
+                dayOf(0, 4) 29409
+                """);
     }
 
     private static void promise18NextReminder() {
-        Signround desk = new Signround();
-        desk.draft();
-        desk.addRound(0, 0b11);
-        desk.addRound(0, 0b100);
-        desk.setTimes(0, 3, 2);
-        desk.pass(1);
-        desk.send(0);
-        Check.due("whatever its term", desk.nextReminder(0), 4);
-        Signround long_ = new Signround();
-        long_.draft();
-        long_.addRound(0, 0b1);
-        long_.addRound(0, 0b110);
-        long_.setTimes(0, 3, 0);
-        long_.send(0);
-        Check.due("a pace away", long_.nextReminder(0), 3);
-        long_.pass(2);
-        Check.due("a day away", long_.nextReminder(0), 3);
-        long_.pass(1);
-        Check.due("today's is behind", long_.nextReminder(0), 6);
-        long_.pass(1);
-        long_.sign(0, 0, 0);
-        Check.due("from the day of the opening", long_.nextReminder(0), 7);
-        long_.pass(14);
-        Check.due("the fifth is to come", long_.nextReminder(0), 19);
-        long_.pass(1);
-        Check.due("none is to come", long_.nextReminder(0), Signround.NONE);
-        Signround mixed = new Signround();
-        mixed.draft();
-        mixed.addSlot(0, 0, 0);
-        mixed.addSlot(0, 1, 0);
-        mixed.addSlot(0, 2, 2);
-        mixed.setTimes(0, 5, 0);
-        mixed.send(0);
-        mixed.pass(2);
-        mixed.sign(1, 0, 1);
-        Check.due("the soonest of two", mixed.nextReminder(0), 5);
-        mixed.pass(4);
-        Check.due("the later slot's is the soonest", mixed.nextReminder(0), 7);
-        mixed.pass(19);
-        Check.due("the other has had five", mixed.nextReminder(0), 27);
+        Sentence.holds("18: Returns the day of the next reminder of an envelope", Beginnings.timed(3, 0) + """
+                nextReminder(0) 3
+                pass(2) 0
+                nextReminder(0) 3
+                pass(1) 1
+                nextReminder(0) 6    // today's is behind
+                pass(1) 0
+                nextReminder(0) 6
+                pass(8) 3
+                nextReminder(0) 15   // the fifth is to come
+                pass(2) 0
+                nextReminder(0) 15
+                """, Beginnings.timed(1, 0) + """
+                nextReminder(0) 1
+                pass(1) 1
+                nextReminder(0) 2
+                """, Beginnings.timed(30, 0) + """
+                nextReminder(0) 30
+                pass(29) 0
+                nextReminder(0) 30
+                pass(1) 1
+                nextReminder(0) 60
+                """);
+        Sentence.holds("18: whatever its term", Beginnings.timed(3, 2) + """
+                nextReminder(0) 3
+                pass(1) 0
+                nextReminder(0) 3
+                """, Beginnings.timed(3, 3) + """
+                nextReminder(0) 3    // though it expires instead
+                pass(2) 0
+                nextReminder(0) 3
+                """);
+        Sentence.holds("18: from the day on which a slot became open", """
+                draft() 0
+                addSlot(0, 0, 0) 0
+                addSlot(0, 1, 1) 1
+                setTimes(0, 3, 0)
+                pass(1) 0
+                send(0) 1
+                nextReminder(0) 4
+                pass(1) 0
+                sign(0, 0, 0) 1
+                nextReminder(0) 5
+                """);
     }
 
-    private static void promise18NextReminderWithoutAny() {
-        Signround desk = new Signround();
-        Check.refuses("envelope 0", desk, Check.INDEX, () -> desk.nextReminder(0));
-        Check.refuses("envelope -1", desk, Check.INDEX, () -> desk.nextReminder(-1));
-        desk.draft();
-        desk.addRound(0, 1);
-        desk.setTimes(0, 1, 0);
-        Check.due("a draft", desk.nextReminder(0), Signround.NONE);
-        desk.send(0);
-        Check.due("sent", desk.nextReminder(0), 1);
-        desk.cancel(0);
-        Check.due("voided", desk.nextReminder(0), Signround.NONE);
-        Check.due("no pace", sentDesk(0, 5, 1).nextReminder(0), Signround.NONE);
-        Signround signed = sentDesk(1, 0, 1);
-        signed.sign(0, 0, 0);
-        Check.due("completed", signed.nextReminder(0), Signround.NONE);
-        Signround declined = sentDesk(1, 0, 1);
-        declined.decline(0, 0, 0);
-        Check.due("declined", declined.nextReminder(0), Signround.NONE);
-        Signround expired = sentDesk(1, 1, 1);
-        expired.pass(1);
-        Check.due("expired", expired.nextReminder(0), Signround.NONE);
+    private static void promise18TheSoonest() {
+        Sentence.holds("18: the next one of all slots that are open", """
+                draft() 0
+                addSlot(0, 0, 0) 0
+                addSlot(0, 1, 0) 1
+                addSlot(0, 2, 2) 2
+                setTimes(0, 5, 0)
+                send(0) 2
+                pass(2) 0
+                sign(1, 0, 1) 1
+                nextReminder(0) 5    // slot 0, ahead of slot 2
+                pass(4) 1
+                nextReminder(0) 7    // slot 2, ahead of slot 0
+                sign(2, 0, 2) 0
+                nextReminder(0) 10   // slot 0 alone
+                """);
+        Sentence.holds("18: without the slots that have had five", """
+                draft() 0
+                addSlot(0, 0, 0) 0
+                addSlot(0, 1, 0) 1
+                addSlot(0, 2, 2) 2
+                setTimes(0, 5, 0)
+                send(0) 2
+                pass(2) 0
+                sign(1, 0, 1) 1
+                pass(23) 9           // five of slot 0, four of slot 2
+                nextReminder(0) 27
+                pass(2) 1
+                nextReminder(0) NONE
+                """);
+        Sentence.holds("18: of this envelope", Beginnings.timed(7, 0) + Beginnings.draft(1, 0, 1) + """
+                setTimes(1, 2, 0)
+                send(1) 1
+                nextReminder(0) 7
+                nextReminder(1) 2
+                """);
+    }
+
+    private static void promise18None() {
+        String setTimes = "setTimes(0, 1, 1)\n";
+        Sentence.holds("18: NONE if it is not sent", Beginnings.DRAFT + setTimes + "nextReminder(0) NONE\n");
+        Sentence.holds("18: NONE when it ended", Beginnings.timed(1, 0) + "sign(0, 0, 0) 0\nnextReminder(0) NONE\n",
+                Beginnings.timed(1, 0) + "decline(0, 0, 0) 1\nnextReminder(0) NONE\n",
+                Beginnings.timed(1, 0) + "cancel(0) 1\nnextReminder(0) NONE\n",
+                Beginnings.timed(2, 1) + "pass(1) 0\nnextReminder(0) NONE\n");
+        Sentence.holds("18: NONE without a pace", Beginnings.timed(0, 0) + "nextReminder(0) NONE\n",
+                Beginnings.timed(0, 5) + "nextReminder(0) NONE\n");
+        Sentence.holds("18: NONE if there is none to come", Beginnings.timed(1, 0) + """
+                pass(4) 4
+                nextReminder(0) 5
+                pass(1) 1
+                nextReminder(0) NONE
+                state(0) SENT
+                """);
+        Sentence.holds("18: a slot that opens then has reminders to come", """
+                draft() 0
+                addSlot(0, 0, 0) 0
+                addSlot(0, 1, 1) 1
+                setTimes(0, 1, 0)
+                send(0) 1
+                pass(9) 5
+                nextReminder(0) NONE
+                sign(0, 0, 0) 1
+                nextReminder(0) 10
+                """);
+    }
+
+    private static void promise18NoSuchEnvelope() {
+        Sentence.holds("18: IndexOutOfBoundsException if there is no such envelope",
+                "nextReminder(0) throws.IndexOutOfBoundsException", Beginnings.SENT + """
+                nextReminder(-1) throws.IndexOutOfBoundsException
+                nextReminder(1) throws.IndexOutOfBoundsException
+                nextReminder(6) throws.IndexOutOfBoundsException
+                nextReminder(-2147483648) throws.IndexOutOfBoundsException
+                nextReminder(2147483647) throws.IndexOutOfBoundsException
+                """);
     }
 }
