@@ -115,7 +115,7 @@ public final class DelegatesTest {
                 delegate(1, 3, 3, 3, 1) 2
                 """);
         Sentence.holds("11: IllegalArgumentException if limit is out of range: 1 to 9", """
-                delegate(1, 2, 0, 4, 5) NONE
+                delegate(1, 2, 1, 4, 5) NONE
                 delegate(1, 3, 0, 0, 0) throws.IllegalArgumentException
                 delegate(1, 3, 0, 0, 10) throws.IllegalArgumentException
                 delegate(1, 3, 0, 0, -1) throws.IllegalArgumentException
@@ -186,6 +186,12 @@ public final class DelegatesTest {
                 revoke(7) throws.IllegalStateException   // being one is not having one
                 revoke(0) 7
                 revoke(0) throws.IllegalStateException
+                """, Beginnings.FIVE + """
+                delegate(1, 2, 0, 0, 1) NONE
+                sign(2, 0, 0) 1
+                revoke(1) 2
+                revoke(1) throws.IllegalStateException
+                signedFor(1) 1
                 """);
     }
 

@@ -32,6 +32,21 @@ public final class HistoriesTest {
             sign(6, 0, 6) 0
             """;
 
+    /** Eight slots of person 1, each behind the one before, with a reminder a day. */
+    private static final String CHAIN = """
+            draft() 0
+            addSlot(0, 1, 0) 0
+            addSlot(0, 1, 1) 1
+            addSlot(0, 1, 2) 2
+            addSlot(0, 1, 4) 3
+            addSlot(0, 1, 8) 4
+            addSlot(0, 1, 16) 5
+            addSlot(0, 1, 32) 6
+            addSlot(0, 1, 64) 7
+            setTimes(0, 1, 0)
+            send(0) 1
+            """;
+
     public static void main(String[] args) {
         eventOfEachKind();
         noEventOfItsOwn();
@@ -159,6 +174,31 @@ public final class HistoriesTest {
                 kindOf(0, 48) VOIDING
                 personOf(0, 48) NONE
                 stateBehind(0, 49) VOIDED
+                """);
+        Sentence.holds("30: as many as there can be, reminders up to the last but one", CHAIN + """
+                pass(6) 5
+                sign(1, 0, 0) 1
+                pass(6) 5
+                sign(1, 0, 1) 1
+                pass(6) 5
+                sign(1, 0, 2) 1
+                pass(6) 5
+                sign(1, 0, 3) 1
+                pass(6) 5
+                sign(1, 0, 4) 1
+                pass(6) 5
+                sign(1, 0, 5) 1
+                pass(6) 5
+                sign(1, 0, 6) 1
+                pass(4) 4
+                nextReminder(0) 47
+                pass(2) 1
+                events(0) 48
+                kindOf(0, 47) REMINDER
+                dayOf(0, 47) 47
+                sign(1, 0, 7) 0
+                events(0) 49
+                stateBehind(0, 49) COMPLETED
                 """);
         Sentence.holds("30: IndexOutOfBoundsException if there is no such envelope", "events(0) throws.IndexOutOfBoundsException",
                 STORY + """
@@ -331,12 +371,19 @@ public final class HistoriesTest {
                 sign(1, 0, 1) 0
                 stateBehind(0, 7) COMPLETED
                 """);
-        Sentence.holds("35: completed by delegates", Beginnings.SENT + """
+        Sentence.holds("35: what a delegate signs counts as well", Beginnings.SENT + """
                 delegate(1, 2, 0, 0, 1) NONE
                 sign(2, 0, 0) 0
                 sign(1, 0, 1) 0
                 stateBehind(0, 2) SENT
                 stateBehind(0, 3) COMPLETED
+                """, Beginnings.SENT + """
+                delegate(1, 2, 0, 0, 1) NONE
+                sign(1, 0, 0) 0
+                sign(2, 0, 1) 0          // the delegate signs the last one
+                stateBehind(0, 2) SENT
+                stateBehind(0, 3) COMPLETED
+                openBehind(0, 3) 0
                 """);
     }
 

@@ -360,6 +360,10 @@ public final class PeopleTest {
                 decline(2, 0, 0) throws.IllegalStateException    // its delegate neither
                 sign(2, 0, 1) 0
                 decline(2, 0, 0) throws.IllegalStateException
+                delegate(1, 2, 0, 9, 1) 2
+                whyNot(2, 0, 0) 5
+                decline(2, 0, 0) throws.IllegalStateException    // nor at the limit
+                decline(1, 0, 0) 4
                 """);
     }
 

@@ -1,8 +1,21 @@
 import java.util.ArrayList;
+import java.util.Arrays;
+import java.util.HashMap;
 import java.util.List;
+import java.util.Map;
 
 /** A sentence of the document, and runs of calls on new desks that hold it. */
 final class Sentence {
+    /** As the document has them, not as the class under test does: a wrong one there is to be seen here. */
+    private static final Map<String, Integer> CONSTANTS = new HashMap<>();
+
+    static {
+        CONSTANTS.put("NONE", -1);
+        number("DRAFT", "SENT", "COMPLETED", "DECLINED", "VOIDED", "EXPIRED");
+        number("WAITING", "OPEN", "SIGNED", "CLOSED");
+        number("SENDING", "SIGNING", "SIGNING_FOR", "DECLINING", "VOIDING", "EXPIRING", "REMINDER");
+    }
+
     private final String words;
     /** The calls of this run that were not refused. */
     private final List<String> story = new ArrayList<>();
@@ -10,6 +23,12 @@ final class Sentence {
 
     private Sentence(String words) {
         this.words = words;
+    }
+
+    private static void number(String... names) {
+        for (String name : names) {
+            CONSTANTS.put(name, Arrays.asList(names).indexOf(name));
+        }
     }
 
     /**
@@ -65,15 +84,10 @@ final class Sentence {
         if (word.startsWith("0b")) {
             return Desk.numberOf(word).toString();
         }
-        return word.isEmpty() || !Character.isLetter(word.charAt(0)) ? word : constant(word);
-    }
-
-    private static String constant(String name) {
-        try {
-            return Signround.class.getField(name).get(null).toString();
-        } catch (ReflectiveOperationException e) {
-            throw new IllegalStateException(e);
+        if (word.isEmpty() || !Character.isLetter(word.charAt(0))) {
+            return word;
         }
+        return CONSTANTS.get(word).toString();
     }
 
     private void leavesNothing(String refused) {
