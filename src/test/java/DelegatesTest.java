@@ -69,6 +69,8 @@ public final class DelegatesTest {
                 pass(1) 0
                 delegateToday(1) NONE
                 delegate(1, 5, 1, 1, 1) 4
+                pass(3) 0
+                delegateToday(1) NONE    // the first one was for this day
                 """);
     }
 
@@ -169,6 +171,15 @@ public final class DelegatesTest {
                 pass(1) 0
                 revoke(2) 5          // for days gone by
                 revoke(7) 0
+                """);
+        Sentence.holds("12: one for later days is away on these too", Beginnings.FIVE + """
+                delegate(1, 3, 2, 9, 1) NONE
+                revoke(1) 3
+                pass(2) 0
+                delegateToday(1) NONE
+                whyNot(3, 0, 0) 4
+                toSign(3) 0
+                revoke(1) throws.IllegalStateException
                 """);
     }
 

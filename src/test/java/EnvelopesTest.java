@@ -269,16 +269,21 @@ public final class EnvelopesTest {
                 sign(0, 0, 2) 1
                 missing(0, 3) 0
                 """);
-        Sentence.holds("23: closed is not signed", """
-                draft() 0
-                addSlot(0, 0, 0) 0
-                addSlot(0, 0, 0) 1
-                addSlot(0, 0, 0b11) 2
-                send(0) 2
-                sign(0, 0, 0) 0
-                cancel(0) 2
-                missing(0, 2) 1
-                """);
+        for (String end : new String[] {"decline(0, 0, 1) 2\n", "cancel(0) 2\n", "pass(1) 0\n"}) {
+            Sentence.holds("23 and 24: closed is not signed", """
+                    draft() 0
+                    addSlot(0, 0, 0) 0
+                    addSlot(0, 0, 0) 1
+                    addSlot(0, 0, 0b11) 2
+                    setTimes(0, 0, 1)
+                    send(0) 2
+                    sign(0, 0, 0) 0
+                    """ + end + """
+                    missing(0, 0) 0
+                    missing(0, 2) 1
+                    share(0) 0.33333334
+                    """);
+        }
         Sentence.holds("23: up to seven", """
                 draft() 0
                 addRound(0, 0b1111111) 7

@@ -55,6 +55,9 @@ public final class FaceTest {
 
     public static void main(String[] args) throws IllegalAccessException {
         Check.due("the class is public and final", Signround.class.getModifiers(), Modifier.PUBLIC | Modifier.FINAL);
+        Check.due("the class above it", Signround.class.getSuperclass(), Object.class);
+        Check.due("interfaces", Signround.class.getInterfaces().length, 0);
+        Check.due("a package", Signround.class.getPackageName(), "");
         constructors();
         methods();
         constants();

@@ -8,6 +8,7 @@ public final class OrdersTest {
         promises27And28WhateverIsSigned();
         promise29OrdersLeft();
         promise29WhateverItsState();
+        promises25To28WhateverItsState();
         noSuchEnvelope();
         Check.end();
     }
@@ -211,6 +212,24 @@ public final class OrdersTest {
         for (String end : new String[] {"decline(0, 0, 0) 3\n", "cancel(0) 3\n", "pass(1) 0\n"}) {
             Sentence.holds("29: as it stands, whatever its state is", threeLeft + end + "ordersLeft(0) 6\n");
         }
+    }
+
+    private static void promises25To28WhateverItsState() {
+        String bow = slots(0, 0, 1, 0b11).replace("draft() 0\n", "draft() 0\nsetTimes(0, 0, 1)\n");
+        String sent = bow + "send(0) 2\nsign(0, 0, 0) 1\n";
+        String[] states = {
+            bow, bow + "send(0) 2\n", sent, sent + "sign(0, 0, 1) 1\nsign(0, 0, 2) 0\nsign(0, 0, 3) 0\n",
+            sent + "decline(0, 0, 1) 3\n", sent + "cancel(0) 3\n", sent + "pass(1) 0\n",
+        };
+        Sentence.holds("25 to 28: they ask for no state", Sentence.behindEach(states, """
+                ahead(0, 0) 0
+                ahead(0, 2) 1
+                ahead(0, 3) 2
+                roundOf(0, 1) 0
+                roundOf(0, 3) 1
+                orders(0) 5
+                ordersByAll(0) 5
+                """));
     }
 
     private static void noSuchEnvelope() {

@@ -211,6 +211,20 @@ public final class TermsTest {
                 delegate(1, 3, 0, 9, 1) NONE
                 sign(3, 0, 1) throws.IllegalStateException
                 """);
+        Sentence.holds("Delegates: so many slots a day at most, though more were signed than a new one may", Beginnings.FIVE + """
+                delegate(1, 2, 0, 9, 3) NONE
+                sign(2, 0, 0) 1
+                sign(2, 0, 1) 1
+                delegate(1, 3, 0, 9, 1) 2
+                sign(3, 0, 2) throws.IllegalStateException
+                toSign(3) 0
+                signedFor(1) 2
+                sign(1, 0, 4) 0          // the person itself may
+                pass(1) 0
+                toSign(3) 2
+                sign(3, 0, 2) 0
+                toSign(3) 0
+                """);
     }
 
     /** A call of each method that can throw, on a desk that has much to lose. */
